@@ -7,12 +7,15 @@ import java.util.Random;
  * in the slowest way: springs by rows of maps of bends, texts by trees, BEST by each plan whole.
  */
 public final class ModelTest {
-    private static final int RUNS = 1500, BEST_RUNS = 200;
+    private static final int RUNS = 1500, BEST_RUNS = 200, RULED_RUNS = 400;
 
     public static void main(String[] args) {
         int wrong = 0;
         for (int seed = 0; seed < RUNS + BEST_RUNS && wrong < 5; seed++) {
             wrong += differs(seed, seed >= RUNS) ? 1 : 0;
+        }
+        for (int seed = 0; seed < RULED_RUNS && wrong < 5; seed++) {
+            wrong += bestDiffers(seed) ? 1 : 0;
         }
         System.out.println(wrong == 0 ? "class and model answer alike" : wrong + " runs differ");
         if (wrong != 0) {
@@ -36,6 +39,32 @@ public final class ModelTest {
             }
         }
         return false;
+    }
+
+    /** BEST by rules that hang on what is known and how often it was heard: all of the class's short cuts lie here. */
+    private static boolean bestDiffers(int seed) {
+        Random r = new Random(seed);
+        SchoolOnRaft x = new SchoolOnRaft();
+        Model m = new Model();
+        List<String> log = new ArrayList<>();
+        begin(r, x, m, log);
+        String[] hears = {"known<2 or 1<often", "known=often or bend=child", "not known=lesson+1", "often<known+1", "bend-known-often+1",
+            "known*often+bend<4", "age-9+known*often", "1<bend or often+known", "not often=known or child=lesson"};
+        String[] worth = {"often*5-known*7", "known*often*4-30", "9-often*often", "(1<often)*20-(known=2)*35", "age*(often=known)", "lesson*often"};
+        String text = "hears " + hears[r.nextInt(hears.length)] + ";worth " + worth[r.nextInt(worth.length)] + ";runs 1;";
+        for (int k = 0; k < text.length(); k++) {
+            x.feed(text.charAt(k));
+            m.feed(text.charAt(k));
+        }
+        boolean differs = x.text() != m.text() || x.force(1) != m.force(1);
+        int[] best = m.bestPlan();
+        for (int what = 0; what <= 6; what++) {
+            differs |= x.best(what) != (what == 0 ? m.pointsOfAll(best) : best[what - 1]);
+        }
+        if (differs) {
+            System.out.println("BEST of ruled run " + seed + " differs: " + text + log);
+        }
+        return differs;
     }
 
     /** A run that begins with nothing would mostly ask about nothing. */

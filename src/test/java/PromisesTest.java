@@ -290,14 +290,16 @@ public final class PromisesTest {
             "hears hears;", "hears 1 and;", "hears 1 or or 1;", "hears 1\t;", "hears #;", "hears 1; worth 0; runs 1",
             "hears 1; worth 0; runs 1; ;", "hears 1; worth 0; runs 1; x", "hears 1; worth 0; runs 1; 1", "hears 1; worth bends;",
             "hears a1;", "hears age1;", "hears 1 not 1;", "hears not;", "hears 1 * - ;", "hears 00000;", "hears 1; worth 0; run 1;",
-            "hears 1 foo 99999;", "hears + 1;", "hears 2 * (3 + 4 ;", "hears 1 , 2;", "hears \u00e9;", "hears 1 ; worth 1 ; runs 1 ; hears"};
+            "hears 1 foo 99999;", "hears + 1;", "hears 2 * (3 + 4 ;", "hears 1 , 2;", "hears \u00e9;", "hears 1 ; worth 1 ; runs 1 ; hears",
+            "hears 1 orz 1;", "hears zor 1;", "hears {;", "hears `;", "hears /;", "hears :;", "hears 1 not 2;"};
         int[] places = {0, 2, 5, 7, 8, 8, 0, 0, 0, 0,
             9, 6, 8, 6, 8, 10, 12,
             12, 10, 8, 8, 7, 7, 6,
             6, 11, 11, 7, 6, 24,
             26, 26, 26, 15,
             6, 9, 8, 9, 12, 6, 18,
-            8, 6, 17, 8, 6, 29};
+            8, 6, 17, 8, 6, 29,
+            8, 6, 6, 6, 6, 6, 8};
         due("9 as many", texts.length, places.length);
         for (int k = 0; k < texts.length && k < places.length; k++) {
             SchoolOnRaft x = new SchoolOnRaft();
@@ -581,6 +583,15 @@ public final class PromisesTest {
             due("15 other plan", x.given(1, bend), NONE);
         }
         due("15 points", x.points(NONE), 25);
+        // The last bend counts as the others.
+        x = new SchoolOnRaft();
+        x.lesson(2, 0, 0);
+        x.child(5, 9);
+        due("15 at the end", x.lay(), 5);
+        due("15 the last bend", x.given(0, 5), 0);
+        due("17 nothing more", x.twice(0, 0), NONE);
+        x.give(0, 5, -1);
+        due("17 the last bend", x.twice(0, 0), 5);
         // The best plan may need a forgotten lesson to be given late.
         x = new SchoolOnRaft();
         x.lesson(2, 0, 0);
@@ -656,8 +667,12 @@ public final class PromisesTest {
         due("16 none", x.run(0, 2, 0), NONE);
         due("16 none on", x.run(0, 2, 1), NONE);
         due("16 none off", x.run(0, 2, 2), NONE);
+        x.child(25, 9);
+        due("16 never a later on", x.run(1, 0, 1), 2);
+        due("16 never an earlier off", x.run(1, 0, 2), 5);
+        due("16 those aboard all the way cost nothing", x.run(1, 1, 0), 0);
         due("16 child below", x.run(-1, 0, 0), BAD);
-        due("16 child above", x.run(1, 0, 0), BAD);
+        due("16 child above", x.run(2, 0, 0), BAD);
         due("16 lessons below", x.run(0, -1, 0), BAD);
         due("16 lessons above", x.run(0, 4, 0), BAD);
         due("16 what below", x.run(0, 0, -1), BAD);
@@ -730,6 +745,12 @@ public final class PromisesTest {
         due("18 later", x.change(0, NONE), 3);
         due("18 later, points", x.change(0, 3), 25);
         due("18 the plan stands", x.given(0, 4), NONE);
+        x.child(5, 9);
+        plan(x, 0, 0, -1, -1, -1, -1, 1);
+        plan(x, 1, 1, -1, -1, -1, -1, -1);
+        due("18 from bend 0 to bend 5", x.change(1, NONE), 5);
+        due("18 from bend 0 to bend 5, points", x.change(1, 5), 25);
+        due("18 but at bend 4", x.change(1, 4), 10);
     }
 
     private static void exam() {
