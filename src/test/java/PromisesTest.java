@@ -1,51 +1,5 @@
 /** For each promise of the document: ordinary inputs, the edges it names, and wrong inputs; answers worked out by hand. */
-public final class PromisesTest {
-    private static final int NONE = -1, BAD = -2, STATE = -3, FULL = -4;
-    private static final int NOTHING = -11, OUTSIDE = -12, UNLIKE = -13, BELOW = -14;
-    private static final long NO = -4611686018427387904L;
-    private static int wrong = 0;
-
-    private static void due(String call, long got, long want) {
-        if (got != want) {
-            wrong++;
-            System.out.println(call + " answered " + got + ", due is " + want);
-        }
-    }
-
-    private static int tape(SchoolOnRaft x, String text) {
-        int last = 0;
-        for (int k = 0; k < text.length(); k++) {
-            last = x.feed(text.charAt(k));
-        }
-        return last;
-    }
-
-    private static int read(SchoolOnRaft x, String text) {
-        tape(x, text);
-        return x.text();
-    }
-
-    /** A new object whose rule is this text. */
-    private static SchoolOnRaft ruled(String text) {
-        SchoolOnRaft x = new SchoolOnRaft();
-        due("read " + text, read(x, text), 1);
-        due("force " + text, x.force(1), 0);
-        return x;
-    }
-
-    private static void plan(SchoolOnRaft x, int raft, int... lessons) {
-        for (int bend = 0; bend < lessons.length; bend++) {
-            x.give(raft, bend, lessons[bend]);
-        }
-    }
-
-    private static void row(SchoolOnRaft x, int sheet, int sort, int... values) {
-        due("sheet", x.sheet(sheet, sort, values.length), 1);
-        for (int i = 0; i < values.length; i++) {
-            due("cell", x.cell(sheet, i, values[i]), 1);
-        }
-    }
-
+public final class PromisesTest extends Checks {
     public static void main(String[] args) {
         newObject();
         lessons();
@@ -81,10 +35,7 @@ public final class PromisesTest {
         copying();
         childrenBySheet();
         taken();
-        System.out.println(wrong == 0 ? "all promises hold" : wrong + " answers are not as due");
-        if (wrong != 0) {
-            System.exit(1);
-        }
+        close("all promises hold");
     }
 
     private static void newObject() {
