@@ -32,6 +32,7 @@ public final class SpringBoundsTest extends Checks {
         chanceSeeds();
         chanceTerms();
         imageKeeps();
+        imageKeepsAll();
         imageLetsGo();
         taken();
         counts();
@@ -386,6 +387,19 @@ public final class SpringBoundsTest extends Checks {
         x.lesson(0, 0, 0);
         x.child(5, 9);
         row("all bends", x, 16, 0, 0, 0, 0, 0, 0);
+        x = ruled("hears 1;worth (often=6)*50;runs 1;");
+        x.lesson(0, 0, 0);
+        x.lesson(0, 0, 0);
+        x.child(5, 9);
+        row("all bends are better than one and another", x, 60, 0, 0, 0, 0, 0, 0);
+        // Lesson 1 must be heard twice, but isn't heard by one who has heard it once and knows nothing.
+        x = ruled("hears known or not often;worth 0;runs 1;");
+        x.lesson(0, 0, 0);
+        x.lesson(1, 1, 0);
+        x.child(1, 9);
+        row("too short for both", x, 10, -1, 0, -1, -1, -1, -1);
+        x.set(3, 0, 2);
+        row("what is known first helps", x, 32, 0, 1, 1, -1, -1, -1);
         // Four lessons, six children, and each bend counts.
         x = ruled("hears bend=lesson+1;worth 0;runs 1;");
         for (int lesson = 0; lesson < 4; lesson++) {
@@ -446,6 +460,22 @@ public final class SpringBoundsTest extends Checks {
         run("kept too shortly, wherever it is aboard", x, 0, 1, NONE, NONE, NONE);
         x.give(0, 4, 0);
         run("one bend more", x, 0, 1, 99, 2, 4);
+        // ON is never more: who comes at 3 hears it at 5 and has it yet, but who comes at 2 hears it there and never again.
+        x = ruled("hears often=0;worth 0;runs 1;");
+        x.lesson(2, 0, 0);
+        x.child(25, 9);
+        plan(x, 0, -1, -1, 0, -1, -1, 0);
+        run("ON is never more", x, 0, 1, NONE, NONE, NONE);
+        x.set(2, 0, 3);
+        run("ON as it is", x, 0, 1, 0, 3, 5);
+        // OFF is never less: a SONG of 0 from 3 is there at 5, but it is gone at 4 and comes anew, from where it is gone at 5.
+        x = one(4, 0);
+        x.set(2, 0, 3);
+        x.set(3, 0, 4);
+        plan(x, 0, -1, -1, -1, 0, 0, -1);
+        run("OFF is never less", x, 0, 1, NONE, NONE, NONE);
+        x.set(3, 0, 3);
+        run("OFF as it is", x, 0, 1, 0, 3, 3);
         // HAVE all of these, and others too.
         x = one(0, 0);
         x.lesson(0, 0, 0);
@@ -769,6 +799,50 @@ public final class SpringBoundsTest extends Checks {
         due("26 a CHILD that is gone", x.has(1, 0), BAD);
     }
 
+    /** An image of a full board: all that can be set, of each lesson and child, and each bend of both plans. */
+    private static void imageKeepsAll() {
+        SchoolOnRaft x = new SchoolOnRaft();
+        for (int lesson = 0; lesson < 4; lesson++) {
+            x.lesson(lesson, 9 - lesson, (1 << lesson) - 1);
+        }
+        for (int child = 0; child < 6; child++) {
+            x.child(11 * child, 5 + child);
+        }
+        for (int bend = 0; bend < 6; bend++) {
+            x.give(0, bend, bend % 4);
+            x.give(1, bend, 3 - bend % 4);
+        }
+        due("25 of a full board", x.image(), 6);
+        for (int lesson = 0; lesson < 4; lesson++) {
+            x.set(0, lesson, 0);
+            x.set(1, lesson, 0);
+        }
+        for (int child = 0; child < 6; child++) {
+            x.set(2, child, 0);
+            x.set(3, child, 5);
+            x.set(4, child, 14);
+        }
+        for (int bend = 0; bend < 6; bend++) {
+            x.give(0, bend, -1);
+            x.give(1, bend, -1);
+        }
+        due("26 of a full board", x.back(), 6);
+        for (int lesson = 0; lesson < 4; lesson++) {
+            due("26 KIND of " + lesson, x.told(lesson, 0), lesson);
+            due("26 NUMBER of " + lesson, x.told(lesson, 1), 9 - lesson);
+            due("26 NEEDS of " + lesson, x.told(lesson, 2), (1 << lesson) - 1);
+        }
+        for (int child = 0; child < 6; child++) {
+            due("26 ON of " + child, x.told(child, 5), child);
+            due("26 OFF of " + child, x.told(child, 6), child);
+            due("26 AGE of " + child, x.told(child, 7), 5 + child);
+        }
+        for (int bend = 0; bend < 6; bend++) {
+            due("26 THE PLAN at " + bend, x.given(0, bend), bend % 4);
+            due("26 THE OTHER PLAN at " + bend, x.given(1, bend), 3 - bend % 4);
+        }
+    }
+
     private static void imageLetsGo() {
         SchoolOnRaft x = one(0, 0);
         x.image();
@@ -799,6 +873,20 @@ public final class SpringBoundsTest extends Checks {
         // The image stays as it is when what it was taken of changes, and may be laid back again.
         due("26 back again", x.back(), 1);
         due("26 lessons again", x.count(0), 1);
+        // Children who are gone have nothing any more, and none of them must meet.
+        x = one(0, 0);
+        x.lesson(0, 0, 0);
+        x.set(3, 0, 0);
+        plan(x, 0, 0, 1);
+        x.image();
+        x.child(11, 9);
+        due("21 both lessons", x.together(0), 3);
+        due("21 both children", x.together(1), 3);
+        due("26 one child again", x.back(), 1);
+        due("21 one lesson", x.together(0), 1);
+        due("21 one child", x.together(1), 1);
+        due("22 of one child", x.known(1), 0);
+        due("24 of one child", x.chance(0, 1, 0, 0, 0), 1);
         // An image of nothing.
         x = new SchoolOnRaft();
         due("25 of a new object", x.image(), 0);

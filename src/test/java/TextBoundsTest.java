@@ -193,6 +193,19 @@ public final class TextBoundsTest extends Checks {
             due("9 in great letters: " + name, fault("hears " + name.toUpperCase() + TAIL), -106);
             due("9 two words as one: " + name, fault("hears not" + name + TAIL), -106);
         }
+        for (String name : NAMES) {
+            for (int k = 0; k < name.length(); k++) {
+                String other = name.substring(0, k) + "z" + name.substring(k + 1);
+                due("9 another letter: " + other, fault("hears " + other + TAIL), -106);
+            }
+        }
+        for (String key : KEYS) {
+            for (int k = 0; k < key.length(); k++) {
+                String other = key.substring(0, k) + "z" + key.substring(k + 1);
+                String text = "hears not 1 and 1 or 1;worth 0;runs 0;";
+                due("9 another letter: " + other, fault(text.replace(key, other)), -100 - text.indexOf(key));
+            }
+        }
         due("9 o is not or", fault("hears 1 o 1" + TAIL), -108);
         due("9 orr is not or", fault("hears 1 orr 1" + TAIL), -108);
         due("9 an is not and", fault("hears 1 an 1" + TAIL), -108);
@@ -469,6 +482,15 @@ public final class TextBoundsTest extends Checks {
         due("9 all signs, five ( deep, and 0 within", value(signs + "(2)))))"), 0);
         due("9 all signs, three ( deep", value("0 or 1 and 1<1+1*(0 or 1 and 1<1+1*(0 or 1 and 1<1+1*(2)))"), 1);
         due("9 - and -", value("9----9"), 18);
+        due("9 many or", value("0" + "or 0".repeat(30) + "or 7"), 1);
+        due("9 many or of 0", value("0" + "or 0".repeat(31)), 0);
+        due("9 many and", value("7" + "and 7".repeat(25)), 1);
+        due("9 many and, the last of 0", value("7" + "and 7".repeat(24) + "and 0"), 0);
+        due("9 many *", value("2" + "*1".repeat(60) + "*3"), 6);
+        due("9 many +", value("2" + "+1".repeat(60)), 62);
+        due("9 many -", value("70" + "-1".repeat(60)), 10);
+        due("9 many + and *", value("1" + "+1*1".repeat(30)), 31);
+        due("9 many compared", value("1=2" + "or 1=2".repeat(16) + "or 1<2"), 1);
         due("9 - from the left", value("9-4-3"), 2);
         due("9 * ahead of -", value("9-4*2"), 1);
         due("9 < behind +", value("1+1<1+2"), 1);
